@@ -1,0 +1,107 @@
+import java.io.IOException;
+import java.lang.reflect.Constructor;
+import java.lang.reflect.Field;
+import java.lang.reflect.Method;
+import java.lang.reflect.Modifier;
+import java.nio.file.Files;
+import java.nio.file.Path;
+import java.util.Set;
+import java.util.TreeSet;
+
+/** The public face, and those rules of LANGUAGE.md that can be seen from outside. */
+public final class FaceTest {
+    private static final Check CHECK = new Check();
+
+    private static final Set<String> FACE = Set.of(
+            "int want(int, int)", "boolean timeout(int, int, int)", "boolean giveUp(int, int)",
+            "boolean release(int, int)", "int breakPermit(int, int)",
+            "boolean order(int, int, int)", "boolean stop(int)", "boolean start(int)",
+            "int letters()", "int letter(int, int)", "boolean deliver(int)", "boolean drop(int)",
+            "boolean copy(int)", "int state(int, int)", "int permit(int, int)",
+            "int quorumOf(int, int)", "int vote(int, int, int)", "int orders(int)",
+            "int done(int, int, int)", "int highest(int)");
+
+    public static void main(String[] args) throws IOException {
+        methods();
+        fieldsAndConstructors();
+        classesInside();
+        source();
+        CHECK.end();
+    }
+
+    private static void methods() {
+        Set<String> seen = new TreeSet<>();
+        Set<String> names = new TreeSet<>();
+        for (Method method : PermitTree.class.getDeclaredMethods()) {
+            CHECK.due(method + " has few parameters", method.getParameterCount() <= 7, true);
+            if (Modifier.isPrivate(method.getModifiers())) {
+                names.add(method.getName());
+                continue;
+            }
+            CHECK.due(method + " is public", Modifier.isPublic(method.getModifiers()), true);
+            CHECK.due(method + " is static", Modifier.isStatic(method.getModifiers()), false);
+            seen.add(signature(method));
+        }
+        CHECK.due("the methods", seen.toString(), new TreeSet<>(FACE).toString());
+        for (String signature : FACE) {
+            String name = signature.substring(signature.indexOf(' ') + 1, signature.indexOf('('));
+            CHECK.due("a private " + name, names.contains(name), false);
+        }
+    }
+
+    private static String signature(Method method) {
+        StringBuilder text = new StringBuilder();
+        text.append(method.getReturnType()).append(' ').append(method.getName()).append('(');
+        String gap = "";
+        for (Class<?> type : method.getParameterTypes()) {
+            text.append(gap).append(type);
+            gap = ", ";
+        }
+        return text.append(')').toString();
+    }
+
+    private static void fieldsAndConstructors() {
+        CHECK.due("the modifiers", Modifier.toString(PermitTree.class.getModifiers()),
+                "public final");
+        CHECK.due("NONE", PermitTree.NONE, -1);
+        for (Field field : PermitTree.class.getDeclaredFields()) {
+            boolean hidden = Modifier.isPrivate(field.getModifiers());
+            CHECK.due(field + " is private", hidden, !field.getName().equals("NONE"));
+        }
+        Constructor<?>[] all = PermitTree.class.getDeclaredConstructors();
+        CHECK.due("the constructors", all.length, 1);
+        CHECK.due("its parameters", all[0].getParameterCount(), 0);
+        CHECK.due("it is public", Modifier.isPublic(all[0].getModifiers()), true);
+    }
+
+    private static void classesInside() {
+        Class<?>[] inside = PermitTree.class.getDeclaredClasses();
+        CHECK.due("few classes", inside.length <= 11, true);
+        for (Class<?> one : inside) {
+            CHECK.due(one + " is static", Modifier.isStatic(one.getModifiers()), true);
+            CHECK.due(one + " is public", Modifier.isPublic(one.getModifiers()), false);
+            int fields = 0;
+            for (Field field : one.getDeclaredFields()) {
+                boolean fixed = Modifier.isFinal(field.getModifiers());
+                if (Modifier.isStatic(field.getModifiers())) {
+                    CHECK.due(field + " is final", fixed, true);
+                } else {
+                    fields++;
+                }
+            }
+            CHECK.due(one + " has few fields", fields <= 20, true);
+            for (Method method : one.getDeclaredMethods()) {
+                CHECK.due(method + " has few parameters", method.getParameterCount() <= 7, true);
+            }
+        }
+    }
+
+    private static void source() throws IOException {
+        String source = Files.readString(Path.of("src/main/java/PermitTree.java"));
+        String[] refused = {"import ", "package ", "->", "::", "synchronized", "assert ",
+            "finally", "throw ", "try ", "static {", "java."};
+        for (String word : refused) {
+            CHECK.due("the program has \"" + word + "\"", source.contains(word), false);
+        }
+    }
+}
