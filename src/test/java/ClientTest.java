@@ -141,6 +141,41 @@ public final class ClientTest {
         CHECK.due("its number", x.permit(0, 0), 1);
         CHECK.due("its quorum", x.quorumOf(0, 0), Yard.bits(0, 1, 3, 7));
         CHECK.due("nothing more to say", x.letters(), 0);
+        storedMustComeInThisRun();
+        storedAfterAll();
+    }
+
+    private static void storedMustComeInThisRun() {
+        PermitTree x = writing(0, 0);
+        Yard.deliver(x, Yard.NUMBER, 3);
+        Yard.deliver(x, Yard.STORED, 3);
+        x.giveUp(0, 0);
+        Yard.deliverAll(x);
+        x.want(0, 0);
+        for (int i = 0; i < 8; i++) {
+            x.deliver(0);
+        }
+        Yard.drop(x, Yard.NUMBER, 3);
+        Yard.deliverAll(x);
+        CHECK.due("3 stored for the first run only", x.state(0, 0), 2);
+    }
+
+    private static void storedAfterAll() {
+        PermitTree x = writing(0, 0);
+        for (int i = 0; i < 4; i++) {
+            x.deliver(0);
+        }
+        x.copy(0);
+        x.copy(0);
+        for (int i = 0; i < 4; i++) {
+            x.deliver(0);
+        }
+        CHECK.due("holding", x.state(0, 0), 3);
+        x.deliver(0);
+        CHECK.due("one more changes nothing", x.state(0, 0), 3);
+        x.breakPermit(0, 1);
+        x.deliver(0);
+        CHECK.due("nor if it is broken", x.state(0, 0), 4);
     }
 
     private static void numberIsAboveAllVotes() {
@@ -165,27 +200,61 @@ public final class ClientTest {
         voteOutsideTheRouteCounts();
     }
 
-    /** Only arbiter 7 knows a high number, and is silent only after its vote has come. */
+    /** Only arbiter 7 knows a number, and is silent before or after its vote has come. */
     private static void voteOutsideTheRouteCounts() {
-        PermitTree x = new PermitTree();
-        x.want(0, 0);
-        while (x.state(0, 0) == 1) {
-            x.deliver(0);
+        for (boolean before : new boolean[] {true, false}) {
+            PermitTree x = onlySevenStored();
+            x.want(1, 0);
+            Yard.deliver(x, Yard.ASK, 7);
+            if (before) {
+                x.timeout(1, 0, 7);
+            }
+            Yard.deliver(x, Yard.VOTE, 7);
+            if (!before) {
+                x.timeout(1, 0, 7);
+            }
+            CHECK.due("its vote is not of the route", x.quorumOf(1, 0), 0);
+            Yard.deliverAll(x);
+            CHECK.due("the quorum", x.quorumOf(1, 0), Yard.bits(0, 1, 3, 8));
+            CHECK.due("but its number counts", x.permit(1, 0), 2);
         }
+        PermitTree y = onlySevenStored();
+        y.want(1, 0);
+        Yard.drop(y, Yard.ASK, 7);
+        y.timeout(1, 0, 7);
+        Yard.deliverAll(y);
+        CHECK.due("if its vote never came, it does not", y.permit(1, 0), 1);
+        votesOfAnEarlierRunDoNotCount();
+    }
+
+    private static void votesOfAnEarlierRunDoNotCount() {
+        PermitTree x = onlySevenStored();
+        x.want(1, 0);
+        Yard.deliver(x, Yard.ASK, 7);
+        Yard.deliver(x, Yard.VOTE, 7);
+        CHECK.due("a vote", x.quorumOf(1, 0), Yard.bits(7));
+        x.giveUp(1, 0);
+        Yard.deliverAll(x);
+        x.want(1, 0);
+        CHECK.due("no votes in the next run", x.quorumOf(1, 0), 0);
+        Yard.drop(x, Yard.ASK, 7);
+        Yard.deliverAll(x);
+        CHECK.due("7 has not voted in it", x.quorumOf(1, 0), Yard.bits(0, 1, 3));
+        x.timeout(1, 0, 7);
+        Yard.deliverAll(x);
+        CHECK.due("nor does its number count", x.permit(1, 0), 1);
+    }
+
+    /** Arbiter 7 alone has stored 1: of the first run's NUMBERs only its own came. */
+    private static PermitTree onlySevenStored() {
+        PermitTree x = writing(0, 0);
         Yard.deliver(x, Yard.NUMBER, 7);
         Yard.dropAll(x);
         x.giveUp(0, 0);
         Yard.deliverAll(x);
-        CHECK.due("only 7 has stored 1", x.vote(7, 0, 2), 1);
+        CHECK.due("7 has stored 1", x.vote(7, 0, 2), 1);
         CHECK.due("3 has not", x.vote(3, 0, 2), 0);
-        x.want(1, 0);
-        Yard.deliver(x, Yard.ASK, 7);
-        Yard.deliver(x, Yard.VOTE, 7);
-        x.timeout(1, 0, 7);
-        CHECK.due("its vote is not of the route", x.quorumOf(1, 0), 0);
-        Yard.deliverAll(x);
-        CHECK.due("the quorum", x.quorumOf(1, 0), Yard.bits(0, 1, 3, 8));
-        CHECK.due("but its number counts", x.permit(1, 0), 2);
+        return x;
     }
 
     private static void timeoutAsksOnlyTheNew() {

@@ -7,7 +7,9 @@ public final class CraneTest {
         ordersAreDoneInTurn();
         lowerNumberIsNotDone();
         brokenNumberIsNotDone();
+        brokenNumberIsHighest();
         brokenLowerNumberKeepsTheHighest();
+        brokenNumbersOutOfOrder();
         latestSixtyFour();
         refuses();
         CHECK.end();
@@ -77,6 +79,42 @@ public final class CraneTest {
         CHECK.due("its number", x.done(0, 1, 0), 2);
     }
 
+    private static void brokenNumberIsHighest() {
+        PermitTree x = new PermitTree();
+        Yard.hold(x, 0, 0);
+        x.breakPermit(0, 1);
+        CHECK.due("not told yet", x.highest(0), 0);
+        x.deliver(15);
+        CHECK.due("told", x.highest(0), 1);
+        CHECK.due("nothing was done", x.orders(0), 0);
+        CHECK.due("other cranes were not told", x.highest(1), 0);
+    }
+
+    /** 2 is told as broken before 1: an order with 2 is not done after both. */
+    private static void brokenNumbersOutOfOrder() {
+        PermitTree x = new PermitTree();
+        Yard.hold(x, 0, 0);
+        x.breakPermit(0, 1);
+        for (int i = 0; i < 15; i++) {
+            x.deliver(0);
+        }
+        x.want(1, 0);
+        for (int i = 0; i < 16; i++) {
+            x.deliver(1);
+        }
+        x.breakPermit(0, 2);
+        for (int i = 0; i < 15; i++) {
+            x.deliver(1);
+        }
+        CHECK.due("both are on their way", Yard.texts(x), "7 0 0 1 -1 1, 7 1 0 1 -1 2");
+        x.deliver(1);
+        x.deliver(0);
+        CHECK.due("the highest", x.highest(0), 2);
+        x.order(1, 0, 5);
+        x.deliver(0);
+        CHECK.due("2 is broken still", x.orders(0), 0);
+    }
+
     private static void brokenLowerNumberKeepsTheHighest() {
         PermitTree x = new PermitTree();
         Yard.hold(x, 0, 0);
@@ -94,7 +132,7 @@ public final class CraneTest {
         x.deliver(1);
         CHECK.due("done", x.highest(0), 2);
         x.deliver(0);
-        CHECK.due("a lower one was broken", x.highest(0), 2);
+        CHECK.due("a lower one was told as broken", x.highest(0), 2);
         x.order(1, 0, 8);
         x.deliver(0);
         CHECK.due("the next is done still", x.orders(0), 2);

@@ -164,8 +164,9 @@ public final class PermitTest {
         x.drop(0);
         CHECK.due("sent again", x.order(0, 0, 78), true);
         CHECK.due("on its way", x.letter(239, 0), Yard.ORDER);
+        CHECK.due("sent once more", x.order(0, 0, 79), true);
         x.deliver(239);
-        CHECK.due("done", x.done(0, 0, 1), 78);
+        CHECK.due("the lost one's code is lost with it", x.done(0, 0, 1), 78);
     }
 
     private PermitTest() {
