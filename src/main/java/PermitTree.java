@@ -159,7 +159,7 @@ public final class PermitTree {
         int arbiter = post.read(i, Post.ARBITER);
         int number = post.read(i, Post.CARRIED);
         int code = post.read(i, Post.CODE);
-        // It leaves the post before it is read, so that its place is free for an answer to it.
+        // It leaves the post before anything comes of it, so that an answer may have its place.
         post.remove(i);
         if (kind == VOTE) {
             takeVote(bidOf(client, crane), run, arbiter, number);
@@ -465,7 +465,7 @@ public final class PermitTree {
         }
     }
 
-    /** An arbiter's vote on a crane. A claim is a client and its run in one number, 0 for nobody. */
+    /** An arbiter's vote on a crane. A claim is a client and its run in one number, 0: nobody. */
     private static final class Ballot {
         private static final int NOBODY = 0;
         private static final int MOST = 16;

@@ -51,9 +51,7 @@ public final class ArbiterTest {
 
         x.start(0);
         x.want(0, 0);
-        for (int i = 0; i < 8; i++) {
-            x.deliver(0);
-        }
+        Yard.deliverTimes(x, 0, 8);
         x.stop(3);
         Yard.deliver(x, Yard.NUMBER, 3);
         CHECK.due("NUMBER is lost", x.vote(3, 0, 2), 0);
@@ -124,9 +122,7 @@ public final class ArbiterTest {
         CHECK.due("one that was not asked: waiting", x.vote(2, 2, 3), 0);
         CHECK.due("one that was not asked: first", x.vote(2, 2, 4), NONE);
         x.release(4, 2);
-        for (int i = 0; i < 4; i++) {
-            x.deliver(0);
-        }
+        Yard.deliverTimes(x, 0, 4);
         CHECK.due("the first gets the votes", Yard.texts(x),
                 "2 6 2 1 0 1, 2 6 2 1 1 1, 2 6 2 1 3 1, 2 6 2 1 7 1");
         CHECK.due("one waits", x.vote(0, 2, 3), 1);
@@ -243,9 +239,7 @@ public final class ArbiterTest {
     private static void numberOfAnother() {
         PermitTree x = new PermitTree();
         x.want(0, 0);
-        for (int i = 0; i < 8; i++) {
-            x.deliver(0);
-        }
+        Yard.deliverTimes(x, 0, 8);
         x.giveUp(0, 0);
         Yard.deliver(x, Yard.BACK, 0);
         int before = x.letters();
@@ -272,9 +266,7 @@ public final class ArbiterTest {
         x.release(0, 0);
         Yard.deliverAll(x);
         x.want(1, 0);
-        for (int i = 0; i < 8; i++) {
-            x.deliver(0);
-        }
+        Yard.deliverTimes(x, 0, 8);
         CHECK.due("the second number", x.letter(0, 5), 2);
         x.copy(0);
         x.deliver(0);

@@ -103,9 +103,7 @@ public final class ClientTest {
     private static void votesMakeItWriting() {
         PermitTree x = new PermitTree();
         x.want(0, 0);
-        for (int i = 0; i < 4; i++) {
-            x.deliver(0);
-        }
+        Yard.deliverTimes(x, 0, 4);
         CHECK.due("the votes", Yard.texts(x),
                 "2 0 0 1 0 0, 2 0 0 1 1 0, 2 0 0 1 3 0, 2 0 0 1 7 0");
         Yard.deliver(x, Yard.VOTE, 3);
@@ -124,15 +122,11 @@ public final class ClientTest {
 
     private static void storedMakesItHolding() {
         PermitTree x = writing(0, 0);
-        for (int i = 0; i < 4; i++) {
-            x.deliver(0);
-        }
+        Yard.deliverTimes(x, 0, 4);
         CHECK.due("all stored", Yard.texts(x),
                 "4 0 0 1 0 0, 4 0 0 1 1 0, 4 0 0 1 3 0, 4 0 0 1 7 0");
         x.copy(0);
-        for (int i = 0; i < 3; i++) {
-            x.deliver(0);
-        }
+        Yard.deliverTimes(x, 0, 3);
         Yard.deliver(x, Yard.STORED, 0);
         CHECK.due("a doubled one counts once", x.state(0, 0), 2);
         CHECK.due("no permit yet", x.permit(0, 0), 0);
@@ -152,9 +146,7 @@ public final class ClientTest {
         x.giveUp(0, 0);
         Yard.deliverAll(x);
         x.want(0, 0);
-        for (int i = 0; i < 8; i++) {
-            x.deliver(0);
-        }
+        Yard.deliverTimes(x, 0, 8);
         Yard.drop(x, Yard.NUMBER, 3);
         Yard.deliverAll(x);
         CHECK.due("3 stored for the first run only", x.state(0, 0), 2);
@@ -162,14 +154,10 @@ public final class ClientTest {
 
     private static void storedAfterAll() {
         PermitTree x = writing(0, 0);
-        for (int i = 0; i < 4; i++) {
-            x.deliver(0);
-        }
+        Yard.deliverTimes(x, 0, 4);
         x.copy(0);
         x.copy(0);
-        for (int i = 0; i < 4; i++) {
-            x.deliver(0);
-        }
+        Yard.deliverTimes(x, 0, 4);
         CHECK.due("holding", x.state(0, 0), 3);
         x.deliver(0);
         CHECK.due("one more changes nothing", x.state(0, 0), 3);
@@ -424,14 +412,10 @@ public final class ClientTest {
     private static void laterVoteOfTheRunIsNothing() {
         PermitTree x = new PermitTree();
         x.want(0, 0);
-        for (int i = 0; i < 4; i++) {
-            x.deliver(0);
-        }
+        Yard.deliverTimes(x, 0, 4);
         x.copy(0);
         x.copy(0);
-        for (int i = 0; i < 4; i++) {
-            x.deliver(0);
-        }
+        Yard.deliverTimes(x, 0, 4);
         CHECK.due("writing", x.state(0, 0), 2);
         CHECK.due("the copies are first", x.letter(0, 0), Yard.VOTE);
         CHECK.due("six letters", x.letters(), 6);
@@ -453,13 +437,9 @@ public final class ClientTest {
 
     private static void lateStoredIsNothing() {
         PermitTree x = writing(0, 0);
-        for (int i = 0; i < 4; i++) {
-            x.deliver(0);
-        }
+        Yard.deliverTimes(x, 0, 4);
         x.giveUp(0, 0);
-        for (int i = 0; i < 4; i++) {
-            x.deliver(0);
-        }
+        Yard.deliverTimes(x, 0, 4);
         CHECK.due("after the end", x.state(0, 0), 0);
         CHECK.due("BACK alone", x.letters(), 4);
 
@@ -474,14 +454,10 @@ public final class ClientTest {
         for (int i = 0; i < 3; i++) {
             x.drop(0);
         }
-        for (int i = 0; i < 4; i++) {
-            x.deliver(1);
-        }
+        Yard.deliverTimes(x, 1, 4);
         CHECK.due("the old STORED alone is left", Yard.texts(x), "4 0 0 1 0 0");
         CHECK.due("the second run", x.want(0, 0), 2);
-        for (int i = 0; i < 8; i++) {
-            x.deliver(1);
-        }
+        Yard.deliverTimes(x, 1, 8);
         CHECK.due("it writes", x.state(0, 0), 2);
         for (int arbiter : new int[] {1, 3, 7}) {
             Yard.deliver(x, Yard.NUMBER, arbiter);
@@ -574,9 +550,7 @@ public final class ClientTest {
     private static PermitTree writing(int client, int crane) {
         PermitTree x = new PermitTree();
         x.want(client, crane);
-        for (int i = 0; i < 8; i++) {
-            x.deliver(0);
-        }
+        Yard.deliverTimes(x, 0, 8);
         return x;
     }
 

@@ -38,14 +38,10 @@ public final class CraneTest {
         Yard.hold(x, 0, 0);
         x.order(0, 0, 10);
         x.release(0, 0);
-        for (int i = 0; i < 4; i++) {
-            x.deliver(1);
-        }
+        Yard.deliverTimes(x, 1, 4);
         CHECK.due("the order is late", Yard.texts(x), "8 0 0 1 -1 1");
         x.want(1, 0);
-        for (int i = 0; i < 16; i++) {
-            x.deliver(1);
-        }
+        Yard.deliverTimes(x, 1, 16);
         CHECK.due("the next holds", x.permit(1, 0), 2);
         x.order(1, 0, 20);
         x.copy(1);
@@ -95,17 +91,11 @@ public final class CraneTest {
         PermitTree x = new PermitTree();
         Yard.hold(x, 0, 0);
         x.breakPermit(0, 1);
-        for (int i = 0; i < 15; i++) {
-            x.deliver(0);
-        }
+        Yard.deliverTimes(x, 0, 15);
         x.want(1, 0);
-        for (int i = 0; i < 16; i++) {
-            x.deliver(1);
-        }
+        Yard.deliverTimes(x, 1, 16);
         x.breakPermit(0, 2);
-        for (int i = 0; i < 15; i++) {
-            x.deliver(1);
-        }
+        Yard.deliverTimes(x, 1, 15);
         CHECK.due("both are on their way", Yard.texts(x), "7 0 0 1 -1 1, 7 1 0 1 -1 2");
         x.deliver(1);
         x.deliver(0);
@@ -119,14 +109,10 @@ public final class CraneTest {
         PermitTree x = new PermitTree();
         Yard.hold(x, 0, 0);
         x.breakPermit(0, 1);
-        for (int i = 0; i < 15; i++) {
-            x.deliver(0);
-        }
+        Yard.deliverTimes(x, 0, 15);
         CHECK.due("the crane's letter is late", Yard.texts(x), "7 0 0 1 -1 1");
         x.want(1, 0);
-        for (int i = 0; i < 16; i++) {
-            x.deliver(1);
-        }
+        Yard.deliverTimes(x, 1, 16);
         CHECK.due("the next holds", x.permit(1, 0), 2);
         x.order(1, 0, 7);
         x.deliver(1);

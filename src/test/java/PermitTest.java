@@ -37,9 +37,7 @@ public final class PermitTest {
         CHECK.due("nobody holds 0", x.breakPermit(0, 0), NONE);
         CHECK.due("nobody holds 1", x.breakPermit(0, 1), NONE);
         x.want(3, 0);
-        for (int i = 0; i < 8; i++) {
-            x.deliver(0);
-        }
+        Yard.deliverTimes(x, 0, 8);
         CHECK.due("who writes does not hold", x.breakPermit(0, 1), NONE);
         CHECK.due("nothing happens", x.letters(), 4);
         Yard.deliverAll(x);
@@ -80,7 +78,7 @@ public final class PermitTest {
         CHECK.due("1 is not", x.state(1, 0), 4);
     }
 
-    /** A run that is broken may wait somewhere too: it was asked there and then not of the quorum. */
+    /** A run whose permit is broken may wait at an arbiter that was asked and then silent. */
     private static void brokenTakesOutOfTheRow() {
         PermitTree x = new PermitTree();
         Yard.hold(x, 0, 0);
@@ -126,9 +124,7 @@ public final class PermitTest {
         CHECK.due("crane 4", x.order(0, 4, 1), false);
         x.want(0, 0);
         CHECK.due("while asking", x.order(0, 0, 1), false);
-        for (int i = 0; i < 8; i++) {
-            x.deliver(0);
-        }
+        Yard.deliverTimes(x, 0, 8);
         CHECK.due("while writing", x.order(0, 0, 1), false);
         CHECK.due("four letters alone", x.letters(), 4);
         Yard.deliverAll(x);

@@ -44,17 +44,11 @@ public final class PostTest {
         for (int i = 0; i < 4; i++) {
             x.drop(0);
         }
-        for (int i = 0; i < 4; i++) {
-            x.deliver(0);
-        }
+        Yard.deliverTimes(x, 0, 4);
         CHECK.due("VOTE", Yard.text(x, 3), "2 2 1 2 7 1");
-        for (int i = 0; i < 4; i++) {
-            x.deliver(0);
-        }
+        Yard.deliverTimes(x, 0, 4);
         CHECK.due("NUMBER", Yard.text(x, 3), "3 2 1 2 7 2");
-        for (int i = 0; i < 4; i++) {
-            x.deliver(0);
-        }
+        Yard.deliverTimes(x, 0, 4);
         CHECK.due("STORED", Yard.text(x, 3), "4 2 1 2 7 0");
         Yard.deliverAll(x);
         x.order(2, 1, 99);

@@ -29,6 +29,13 @@ final class Yard {
         }
     }
 
+    /** Delivers what is at a place, so many times. */
+    static void deliverTimes(PermitTree tree, int place, int times) {
+        for (int i = 0; i < times; i++) {
+            tree.deliver(place);
+        }
+    }
+
     static void dropAll(PermitTree tree) {
         for (int i = tree.letters() - 1; i >= 0; i--) {
             tree.drop(i);
