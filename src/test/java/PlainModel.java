@@ -11,9 +11,9 @@ import java.util.TreeSet;
 
 /**
  * The document's terms once more, as plainly as the Java library allows, on lists, maps and sets:
- * random runs are held against it. Its calls take right arguments alone.
+ * scenes and random runs are held against it.
  */
-final class PlainModel {
+final class PlainModel implements Face {
     record Letter(int kind, int client, int crane, int run, int arbiter, int number, int code) {
     }
 
@@ -76,6 +76,10 @@ final class PlainModel {
         return arbiters.get(arbiter + "/" + crane);
     }
 
+    private static boolean isAny(int i, int count) {
+        return i >= 0 && i < count;
+    }
+
     private static Set<Integer> route(int arbiter, Set<Integer> silent) {
         Set<Integer> route = new TreeSet<>();
         if (arbiter >= 7) {
@@ -113,8 +117,9 @@ final class PlainModel {
         }
     }
 
-    int want(int client, int crane) {
-        if (attempt(client, crane) != null) {
+    @Override
+    public int want(int client, int crane) {
+        if (!isAny(client, 8) || !isAny(crane, 4) || attempt(client, crane) != null) {
             return -1;
         }
         Attempt attempt = new Attempt(runs.merge(client, 1, Integer::sum));
@@ -144,9 +149,11 @@ final class PlainModel {
         sendAll(route, 3, client, crane, attempt.run, attempt.number);
     }
 
-    boolean timeout(int client, int crane, int arbiter) {
+    @Override
+    public boolean timeout(int client, int crane, int arbiter) {
         Attempt attempt = attempt(client, crane);
-        if (attempt == null || !attempt.state.equals("asking") || !attempt.silent.add(arbiter)) {
+        if (attempt == null || !attempt.state.equals("asking") || !isAny(arbiter, 15)
+                || !attempt.silent.add(arbiter)) {
             return false;
         }
         ask(client, crane, attempt);
@@ -154,12 +161,14 @@ final class PlainModel {
         return true;
     }
 
-    boolean giveUp(int client, int crane) {
+    @Override
+    public boolean giveUp(int client, int crane) {
         Attempt attempt = attempt(client, crane);
         return attempt != null && !attempt.state.equals("holding") && end(client, crane);
     }
 
-    boolean release(int client, int crane) {
+    @Override
+    public boolean release(int client, int crane) {
         Attempt attempt = attempt(client, crane);
         return attempt != null && attempt.state.equals("holding") && end(client, crane);
     }
@@ -170,7 +179,8 @@ final class PlainModel {
         return true;
     }
 
-    int breakPermit(int crane, int number) {
+    @Override
+    public int breakPermit(int crane, int number) {
         for (int client = 0; client < 8; client++) {
             Attempt attempt = attempt(client, crane);
             if (attempt == null || !attempt.state.equals("holding") || attempt.broken
@@ -187,7 +197,8 @@ final class PlainModel {
         return -1;
     }
 
-    boolean order(int client, int crane, int code) {
+    @Override
+    public boolean order(int client, int crane, int code) {
         Attempt attempt = attempt(client, crane);
         if (attempt == null || !attempt.state.equals("holding")) {
             return false;
@@ -196,16 +207,19 @@ final class PlainModel {
         return true;
     }
 
-    boolean stop(int arbiter) {
-        return down.add(arbiter);
+    @Override
+    public boolean stop(int arbiter) {
+        return isAny(arbiter, 15) && down.add(arbiter);
     }
 
-    boolean start(int arbiter) {
+    @Override
+    public boolean start(int arbiter) {
         return down.remove(arbiter);
     }
 
-    boolean deliver(int i) {
-        if (i >= post.size()) {
+    @Override
+    public boolean deliver(int i) {
+        if (!isAny(i, post.size())) {
             return false;
         }
         Letter letter = post.remove(i);
@@ -291,15 +305,21 @@ final class PlainModel {
                 arbiter.stored, 0));
     }
 
-    boolean drop(int i) {
-        return i < post.size() && post.remove(i) != null;
+    @Override
+    public boolean drop(int i) {
+        return isAny(i, post.size()) && post.remove(i) != null;
     }
 
-    boolean copy(int i) {
-        return i < post.size() && post.size() < 240 && post.add(post.get(i));
+    @Override
+    public boolean copy(int i) {
+        return isAny(i, post.size()) && post.size() < 240 && post.add(post.get(i));
     }
 
-    int state(int client, int crane) {
+    @Override
+    public int state(int client, int crane) {
+        if (!isAny(client, 8) || !isAny(crane, 4)) {
+            return -1;
+        }
         Attempt attempt = attempt(client, crane);
         if (attempt == null) {
             return 0;
@@ -310,12 +330,24 @@ final class PlainModel {
         return List.of("", "asking", "writing", "holding").indexOf(attempt.state);
     }
 
-    int permit(int client, int crane) {
+    @Override
+    public int permit(int client, int crane) {
         Attempt attempt = attempt(client, crane);
         return attempt != null && attempt.state.equals("holding") ? attempt.number : 0;
     }
 
-    int quorumOf(int client, int crane) {
+    int highestPermit() {
+        int highest = 0;
+        for (Attempt attempt : attempts.values()) {
+            if (attempt.state.equals("holding")) {
+                highest = Math.max(highest, attempt.number);
+            }
+        }
+        return highest;
+    }
+
+    @Override
+    public int quorumOf(int client, int crane) {
         Attempt attempt = attempt(client, crane);
         if (attempt == null) {
             return 0;
@@ -331,5 +363,53 @@ final class PlainModel {
             bits |= 1 << arbiter;
         }
         return bits;
+    }
+
+    @Override
+    public int letters() {
+        return post.size();
+    }
+
+    @Override
+    public int letter(int i, int what) {
+        if (!isAny(i, post.size()) || !isAny(what, 6)) {
+            return -1;
+        }
+        Letter letter = post.get(i);
+        return List.of(letter.kind, letter.client, letter.crane, letter.run, letter.arbiter,
+                letter.number).get(what);
+    }
+
+    @Override
+    public int vote(int number, int crane, int what) {
+        Arbiter arbiter = arbiter(number, crane);
+        if (arbiter == null || !isAny(what, 5)) {
+            return -1;
+        }
+        Claim none = new Claim(-1, -1);
+        Claim holder = arbiter.holder == null ? none : arbiter.holder;
+        Claim first = arbiter.row.isEmpty() ? none : arbiter.row.peekFirst();
+        return List.of(holder.client, holder.run, arbiter.stored, arbiter.row.size(),
+                first.client).get(what);
+    }
+
+    @Override
+    public int orders(int crane) {
+        return isAny(crane, 4) ? cranes.get(crane).done.size() : -1;
+    }
+
+    @Override
+    public int done(int crane, int i, int what) {
+        int count = orders(crane);
+        if (!isAny(i, count) || i < count - 64 || !isAny(what, 2)) {
+            return -1;
+        }
+        Done one = cranes.get(crane).done.get(i);
+        return what == 0 ? one.number : one.code;
+    }
+
+    @Override
+    public int highest(int crane) {
+        return isAny(crane, 4) ? cranes.get(crane).highest : -1;
     }
 }

@@ -1,14 +1,17 @@
+import java.util.ArrayList;
 import java.util.List;
 import java.util.Random;
 
 /**
- * Long runs of calls with fixed seeds, each held against PlainModel after every call: all that the
- * object tells about itself. Some seeds crowd the post, some a single arbiter's row, some a crane.
+ * Random runs with fixed seeds: each call answers as PlainModel does, and at the end of a run all
+ * that the object tells about itself is as there. Some seeds crowd the post, some a single arbiter's
+ * row, some a crane; a few calls have wrong arguments.
  */
 public final class RandomRunsTest {
     private static final Check CHECK = new Check();
-    private static final int CALLS = 512;
-    private static final int RUNS_OF_A_KIND = 40;
+    private static final int RUNS_OF_A_KIND = 300;
+    // So many questions at least fit on one object after the longest run.
+    private static final int LONGEST = Tree.MOST_CALLS - 72;
 
     // How often, of 100: deliver, want, timeout, giveUp, release, break, order, stop or start,
     // drop, copy.
@@ -20,14 +23,17 @@ public final class RandomRunsTest {
         {52, 6, 0, 0, 1, 1, 37, 0, 1, 2},
         {64, 8, 2, 1, 6, 9, 7, 1, 1, 1},
     };
+    private static final int[] WRONG = {-1, 4, 8, 15, 240, Integer.MIN_VALUE, Integer.MAX_VALUE};
 
+    private final String name;
     private final Random random;
-    private final PermitTree tree = new PermitTree();
+    private final Tree tree = new Tree();
     private final PlainModel model = new PlainModel();
+    private final List<Call> calls = new ArrayList<>();
     private final int clients;
     private final int cranes;
     private final boolean inOrder;
-    private String call = "";
+    private final int length;
     private static int fullest = 0;
     private static int longestRow = 0;
     private static int mostDone = 0;
@@ -42,25 +48,31 @@ public final class RandomRunsTest {
         CHECK.due("the post was full once", fullest, 240);
         CHECK.due("an arbiter's row was full once", longestRow, 16);
         CHECK.due("a crane did over 64 orders", mostDone > 64, true);
-        CHECK.due("many permits were given", highest > 8, true);
+        CHECK.due("many permits were given", highest > 6, true);
         CHECK.end();
     }
 
     private RandomRunsTest(long seed) {
+        name = "seed " + seed;
         random = new Random(seed);
         clients = 1 + random.nextInt(8);
         cranes = 1 + random.nextInt(4) / (1 + random.nextInt(4));
         inOrder = random.nextBoolean();
+        length = random.nextInt(3) == 0 ? LONGEST : 1 + random.nextInt(LONGEST);
     }
 
     private void run(int[] manner) {
-        for (int i = 0; i < CALLS; i++) {
-            step(manner);
-            compare();
+        for (int i = 0; i < length; i++) {
+            Call call = perhapsWrong(next(manner));
+            calls.add(call);
+            CHECK.due(name + ", call " + i + ", " + call, call.on(tree), call.on(model));
+            fullest = Math.max(fullest, model.letters());
+            highest = Math.max(highest, model.highestPermit());
         }
+        compare(questions());
     }
 
-    private void step(int[] manner) {
+    private Call next(int[] manner) {
         int pick = random.nextInt(100);
         int kind = 0;
         while (kind < manner.length - 1 && pick >= manner[kind]) {
@@ -72,44 +84,30 @@ public final class RandomRunsTest {
         int arbiter = random.nextInt(random.nextBoolean() ? 15 : 4);
         int place = inOrder && random.nextInt(8) != 0 ? 0
                 : random.nextInt(Math.max(1, model.post.size()));
-        switch (kind) {
-            case 0 -> same("deliver " + place, tree.deliver(place), model.deliver(place));
-            case 1 -> same("want " + client + " " + crane, tree.want(client, crane),
-                    model.want(client, crane));
-            case 2 -> same("timeout " + client + " " + crane + " " + arbiter,
-                    tree.timeout(client, crane, arbiter), model.timeout(client, crane, arbiter));
-            case 3 -> same("giveUp " + client + " " + crane, tree.giveUp(client, crane),
-                    model.giveUp(client, crane));
-            case 4 -> releaseOne(holderOr(client, crane), crane);
-            case 5 -> breakOne(holderOr(client, crane), crane);
-            case 6 -> orderOne(holderOr(client, crane), crane);
-            case 7 -> {
-                if (random.nextInt(3) == 0) {
-                    same("stop " + arbiter, tree.stop(arbiter), model.stop(arbiter));
-                } else {
-                    same("start " + arbiter, tree.start(arbiter), model.start(arbiter));
-                }
-            }
-            case 8 -> same("drop " + place, tree.drop(place), model.drop(place));
-            default -> same("copy " + place, tree.copy(place), model.copy(place));
-        }
+        int holder = holderOr(client, crane);
+        int number = Math.max(model.permit(holder, crane), random.nextInt(3));
+        return switch (kind) {
+            case 0 -> Call.of("deliver", place);
+            case 1 -> Call.of("want", client, crane);
+            case 2 -> Call.of("timeout", client, crane, arbiter);
+            case 3 -> Call.of("giveUp", client, crane);
+            case 4 -> Call.of("release", holder, crane);
+            case 5 -> Call.of("breakPermit", crane, number);
+            case 6 -> Call.of("order", holder, crane, random.nextInt());
+            case 7 -> Call.of(random.nextInt(3) == 0 ? "stop" : "start", arbiter);
+            case 8 -> Call.of("drop", place);
+            default -> Call.of("copy", place);
+        };
     }
 
-    private void releaseOne(int client, int crane) {
-        same("release " + client + " " + crane, tree.release(client, crane),
-                model.release(client, crane));
-    }
-
-    private void breakOne(int client, int crane) {
-        int number = Math.max(model.permit(client, crane), random.nextInt(3));
-        same("breakPermit " + crane + " " + number, tree.breakPermit(crane, number),
-                model.breakPermit(crane, number));
-    }
-
-    private void orderOne(int client, int crane) {
-        int code = random.nextInt();
-        same("order " + client + " " + crane, tree.order(client, crane, code),
-                model.order(client, crane, code));
+    private Call perhapsWrong(Call call) {
+        int wrong = WRONG[random.nextInt(WRONG.length)];
+        return switch (random.nextInt(100)) {
+            case 0 -> new Call(call.name(), wrong, call.b(), call.c());
+            case 1 -> new Call(call.name(), call.a(), wrong, call.c());
+            case 2 -> new Call(call.name(), call.a(), call.b(), wrong);
+            default -> call;
+        };
     }
 
     /** Mostly one that holds, if there is one: else little would come of what is done to it. */
@@ -124,76 +122,55 @@ public final class RandomRunsTest {
         return someone;
     }
 
-    private void same(String what, boolean got, boolean want) {
-        call = what;
-        CHECK.due(call, got, want);
-    }
-
-    private void same(String what, int got, int want) {
-        call = what;
-        CHECK.due(call, got, want);
-    }
-
-    private void compare() {
-        compareLetters();
+    private List<Call> questions() {
+        List<Call> all = new ArrayList<>();
+        all.add(Call.of("letters"));
+        for (int i = 0; i <= model.letters(); i++) {
+            for (int what = 0; what < 6; what++) {
+                all.add(Call.of("letter", i, what));
+            }
+        }
         for (int crane = 0; crane < 4; crane++) {
-            compareCrane(crane);
+            all.add(Call.of("orders", crane));
+            all.add(Call.of("highest", crane));
+            for (int i = 0; i <= model.orders(crane); i++) {
+                all.add(Call.of("done", crane, i, 0));
+                all.add(Call.of("done", crane, i, 1));
+            }
+            for (int client = 0; client < 8; client++) {
+                all.add(Call.of("state", client, crane));
+                all.add(Call.of("permit", client, crane));
+                all.add(Call.of("quorumOf", client, crane));
+            }
+            for (int arbiter = 0; arbiter < 15; arbiter++) {
+                for (int what = 0; what < 5; what++) {
+                    all.add(Call.of("vote", arbiter, crane, what));
+                }
+            }
+        }
+        return all;
+    }
+
+    /** New objects take the run's calls again whenever one has been used for 512. */
+    private void compare(List<Call> questions) {
+        Tree asked = tree;
+        for (Call question : questions) {
+            if (asked.callsLeft() == 0) {
+                asked = new Tree();
+                Call.onAll(asked, calls);
+            }
+            CHECK.due(name + ", in the end, " + question, question.on(asked), question.on(model));
+        }
+        for (int crane = 0; crane < 4; crane++) {
+            mostDone = Math.max(mostDone, model.orders(crane));
             int holding = 0;
             for (int client = 0; client < 8; client++) {
-                CHECK.due(call + ": state", tree.state(client, crane), model.state(client, crane));
-                CHECK.due(call + ": permit", tree.permit(client, crane),
-                        model.permit(client, crane));
-                CHECK.due(call + ": quorumOf", tree.quorumOf(client, crane),
-                        model.quorumOf(client, crane));
-                holding += tree.state(client, crane) == 3 ? 1 : 0;
-                highest = Math.max(highest, tree.permit(client, crane));
+                holding += model.state(client, crane) == 3 ? 1 : 0;
             }
-            CHECK.due(call + ": at most one holds what is not broken", holding <= 1, true);
+            CHECK.due(name + ": at most one holds what is not broken", holding <= 1, true);
             for (int arbiter = 0; arbiter < 15; arbiter++) {
-                compareArbiter(arbiter, crane);
+                longestRow = Math.max(longestRow, model.vote(arbiter, crane, 3));
             }
         }
-    }
-
-    private void compareLetters() {
-        CHECK.due(call + ": letters", tree.letters(), model.post.size());
-        fullest = Math.max(fullest, tree.letters());
-        for (int i = 0; i < model.post.size(); i++) {
-            PlainModel.Letter letter = model.post.get(i);
-            CHECK.due(call + ": kind", tree.letter(i, 0), letter.kind());
-            CHECK.due(call + ": client", tree.letter(i, 1), letter.client());
-            CHECK.due(call + ": crane", tree.letter(i, 2), letter.crane());
-            CHECK.due(call + ": run", tree.letter(i, 3), letter.run());
-            CHECK.due(call + ": arbiter", tree.letter(i, 4), letter.arbiter());
-            CHECK.due(call + ": number", tree.letter(i, 5), letter.number());
-        }
-    }
-
-    private void compareCrane(int crane) {
-        List<PlainModel.Done> done = model.cranes.get(crane).done;
-        CHECK.due(call + ": orders", tree.orders(crane), done.size());
-        CHECK.due(call + ": highest", tree.highest(crane), model.cranes.get(crane).highest);
-        mostDone = Math.max(mostDone, done.size());
-        for (int i = 0; i <= done.size(); i++) {
-            boolean kept = i < done.size() && i >= done.size() - 64;
-            CHECK.due(call + ": number done", tree.done(crane, i, 0),
-                    kept ? done.get(i).number() : -1);
-            CHECK.due(call + ": code done", tree.done(crane, i, 1), kept ? done.get(i).code() : -1);
-        }
-    }
-
-    private void compareArbiter(int number, int crane) {
-        PlainModel.Arbiter arbiter = model.arbiter(number, crane);
-        PlainModel.Claim holder = arbiter.holder;
-        PlainModel.Claim first = arbiter.row.peekFirst();
-        CHECK.due(call + ": holder", tree.vote(number, crane, 0),
-                holder == null ? -1 : holder.client());
-        CHECK.due(call + ": its run", tree.vote(number, crane, 1),
-                holder == null ? -1 : holder.run());
-        CHECK.due(call + ": stored", tree.vote(number, crane, 2), arbiter.stored);
-        CHECK.due(call + ": waiting", tree.vote(number, crane, 3), arbiter.row.size());
-        CHECK.due(call + ": first", tree.vote(number, crane, 4),
-                first == null ? -1 : first.client());
-        longestRow = Math.max(longestRow, arbiter.row.size());
     }
 }

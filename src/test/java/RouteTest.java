@@ -7,28 +7,74 @@ public final class RouteTest {
     private static final int ARBITERS = 15;
 
     public static void main(String[] args) {
-        knownRoutes();
+        eachLeafInItsTurn();
+        leftElseRight();
+        silentTakesBoth();
+        noneIfNeitherHasOne();
+        noneOfSilentIfOneHasNone();
         allRoutes();
         CHECK.end();
     }
 
-    private static void knownRoutes() {
+    // Of a leaf that is not silent: it alone. Of a silent one there is none.
+
+    private static void eachLeafInItsTurn() {
+        int leavesBefore = 0;
+        int[] parents = {3, 3, 4, 4, 5, 5, 6, 6};
+        for (int leaf = 7; leaf < ARBITERS; leaf++) {
+            int half = leaf < 11 ? 1 : 2;
+            due(leavesBefore, Yard.bits(0, half, parents[leaf - 7], leaf));
+            leavesBefore |= 1 << leaf;
+        }
+        due(leavesBefore, 0);
+    }
+
+    // Of another one that is not silent: it and a route from its left one, else its right one.
+
+    private static void leftElseRight() {
         due(Yard.bits(), Yard.bits(0, 1, 3, 7));
         due(Yard.bits(7), Yard.bits(0, 1, 3, 8));
+        due(Yard.bits(8), Yard.bits(0, 1, 3, 7));
         due(Yard.bits(7, 8), Yard.bits(0, 1, 4, 9));
-        due(Yard.bits(3), Yard.bits(0, 1, 7, 8));
         due(Yard.bits(3, 7), Yard.bits(0, 1, 4, 9));
         due(Yard.bits(3, 8), Yard.bits(0, 1, 4, 9));
+        due(Yard.bits(1, 7, 8), Yard.bits(0, 2, 5, 11));
+        due(Yard.bits(1, 9, 10), Yard.bits(0, 2, 5, 11));
+        due(Yard.bits(7, 8, 9, 10, 11, 12, 13), Yard.bits(0, 2, 6, 14));
+    }
+
+    // Of one that is silent: the routes from both below it together.
+
+    private static void silentTakesBoth() {
+        due(Yard.bits(3), Yard.bits(0, 1, 7, 8));
         due(Yard.bits(1), Yard.bits(0, 3, 7, 4, 9));
         due(Yard.bits(1, 9), Yard.bits(0, 3, 7, 4, 10));
-        due(Yard.bits(1, 9, 10), Yard.bits(0, 2, 5, 11));
         due(Yard.bits(0), Yard.bits(1, 3, 7, 2, 5, 11));
+        due(Yard.bits(0, 1), Yard.bits(3, 7, 4, 9, 2, 5, 11));
         due(Yard.bits(0, 1, 2), Yard.bits(3, 7, 4, 9, 5, 11, 6, 13));
+        due(Yard.bits(7, 8, 9, 10, 11, 12, 6), Yard.bits(0, 2, 13, 14));
         due(Yard.bits(0, 1, 2, 3, 4, 5, 6), Yard.bits(7, 8, 9, 10, 11, 12, 13, 14));
-        due(Yard.bits(0, 1, 2, 3, 4, 5, 6, 14), 0);
-        due(Yard.bits(7, 8, 9, 10, 11, 12, 13), Yard.bits(0, 2, 6, 14));
+    }
+
+    // There is none of one that is not silent if neither below has one.
+
+    private static void noneIfNeitherHasOne() {
         due(Yard.bits(7, 8, 9, 10, 11, 12, 13, 14), 0);
+        due(Yard.bits(1, 2, 7, 8, 13, 14), 0);
+        due(Yard.bits(1, 2, 7, 8, 13), Yard.bits(0, 5, 11, 6, 14));
+        due(Yard.bits(3, 4, 5, 6, 7, 9, 11, 13), 0);
+        due(Yard.bits(3, 4, 5, 6, 7, 9, 11), Yard.bits(0, 2, 13, 14));
+    }
+
+    // There is none of a silent one if one of the two has none.
+
+    private static void noneOfSilentIfOneHasNone() {
+        due(Yard.bits(0, 7, 8, 9, 10), 0);
+        due(Yard.bits(0, 7, 8, 9), Yard.bits(1, 4, 10, 2, 5, 11));
         due(Yard.bits(0, 11, 12, 13, 14), 0);
+        due(Yard.bits(0, 11, 12, 13), Yard.bits(1, 3, 7, 2, 6, 14));
+        due(Yard.bits(0, 1, 2, 3, 4, 5, 6, 7), 0);
+        due(Yard.bits(0, 1, 2, 3, 4, 5, 6, 14), 0);
         due((1 << ARBITERS) - 1, 0);
     }
 
