@@ -1,11 +1,12 @@
 import java.util.ArrayList;
+import java.util.Arrays;
 import java.util.List;
 
 /** One call of the face with its arguments; those that the method does not take are 0. */
 record Call(String name, int a, int b, int c) {
 
     static Call of(String name, int... given) {
-        int[] all = java.util.Arrays.copyOf(given, 3);
+        int[] all = Arrays.copyOf(given, 3);
         return new Call(name, all[0], all[1], all[2]);
     }
 

@@ -21,8 +21,9 @@ public final class EdgeArbiterTest {
 
     private static void stopOfNoneSuch() {
         SCRIPT.run("the first and the last", "stop 0 = 1; stop 14 = 1; start 1 = 0; start 13 = 0");
-        SCRIPT.refused("arbiters", "want 0 0;", "stop -1 = 0; stop 15 = 0; stop 16 = 0; stop 31 = 0;"
-                + "stop 32 = 0; stop 46 = 0; stop -32 = 0; stop min = 0; stop max = 0");
+        SCRIPT.refused("arbiters", "want 0 0;", "stop -1 = 0; stop 15 = 0; stop 16 = 0;"
+                + "stop 31 = 0; stop 32 = 0; stop 46 = 0; stop -32 = 0; stop min = 0;"
+                + "stop max = 0");
     }
 
     private static void stopOfOneThatIsDown() {
@@ -41,8 +42,9 @@ public final class EdgeArbiterTest {
                 + "stop 9; stop 10; stop 11; stop 12; stop 13; stop 14; want 0 0;";
         SCRIPT.run("the first and the last", allDown, "start 0 = 1; start 14 = 1; start 0 = 0;",
                 "start 14 = 0; stop 1 = 0; stop 13 = 0");
-        SCRIPT.refused("arbiters", allDown, "start -1 = 0; start 15 = 0; start 16 = 0; start 31 = 0;"
-                + "start 32 = 0; start 46 = 0; start -32 = 0; start min = 0; start max = 0");
+        SCRIPT.refused("arbiters", allDown, "start -1 = 0; start 15 = 0; start 16 = 0;"
+                + "start 31 = 0; start 32 = 0; start 46 = 0; start -32 = 0; start min = 0;"
+                + "start max = 0");
     }
 
     private static void startOfOneThatIsUp() {
@@ -64,7 +66,8 @@ public final class EdgeArbiterTest {
                 "vote 14 3 2 = 0; vote 14 3 3 = 0");
         SCRIPT.refused("arbiters", HOLDING, "vote -1 0 0 = -1; vote -1 0 2 = -1; vote -1 0 3 = -1;"
                 + "vote 15 0 0 = -1; vote 15 0 2 = -1; vote 15 0 3 = -1; vote -1 4 2 = -1;"
-                + "vote 1 -4 2 = -1; vote min 0 2 = -1; vote max 0 2 = -1; vote 1073741824 0 2 = -1");
+                + "vote 1 -4 2 = -1; vote min 0 2 = -1; vote max 0 2 = -1;"
+                + "vote 1073741824 0 2 = -1");
         SCRIPT.refused("cranes", HOLDING, "vote 0 -1 0 = -1; vote 0 -1 2 = -1; vote 1 -1 3 = -1;"
                 + "vote 0 4 0 = -1; vote 0 4 2 = -1; vote 14 4 3 = -1; vote 0 min 2 = -1;"
                 + "vote 0 max 2 = -1");

@@ -61,7 +61,8 @@ public final class EdgeClientTest {
                 + "want -1 3 = -1; want min 0 = -1; want max 0 = -1; want 1073741824 0 = -1");
         SCRIPT.refused("cranes", "", "want 0 -1 = -1; want 0 4 = -1; want 7 4 = -1; want 7 -1 = -1;"
                 + "want 0 min = -1; want 0 max = -1");
-        SCRIPT.refused("both", "", "want -1 4 = -1; want 8 -1 = -1; want 1 -4 = -1; want -1 7 = -1");
+        SCRIPT.refused("both", "", "want -1 4 = -1; want 8 -1 = -1; want 1 -4 = -1;"
+                + "want -1 7 = -1");
     }
 
     private static void wantOfOneThatIsAtIt() {
@@ -98,10 +99,11 @@ public final class EdgeClientTest {
                 + "timeout 0 0 16 = 0; timeout 0 0 32 = 0; timeout 0 0 39 = 0; timeout 0 0 -25 = 0;"
                 + "timeout 0 0 min = 0; timeout 0 0 max = 0");
         SCRIPT.refused("clients", "want 0 0; want 7 3;", "timeout -1 0 0 = 0; timeout 8 3 0 = 0;"
-                + "timeout -1 4 0 = 0; timeout 1 -4 0 = 0; timeout min 0 0 = 0; timeout max 3 0 = 0;"
-                + "timeout 1073741824 0 0 = 0");
+                + "timeout -1 4 0 = 0; timeout 1 -4 0 = 0; timeout min 0 0 = 0;"
+                + "timeout max 3 0 = 0; timeout 1073741824 0 0 = 0");
         SCRIPT.refused("cranes", "want 0 0; want 7 3;", "timeout 0 -1 0 = 0; timeout 7 4 0 = 0;"
-                + "timeout 8 -1 0 = 0; timeout 0 31 0 = 0; timeout 0 min 0 = 0; timeout 7 max 0 = 0");
+                + "timeout 8 -1 0 = 0; timeout 0 31 0 = 0; timeout 0 min 0 = 0;"
+                + "timeout 7 max 0 = 0");
     }
 
     private static void timeoutOfOneThatIsNotAsking() {
@@ -175,7 +177,8 @@ public final class EdgeClientTest {
         SCRIPT.run("the first and the last", both, "release 0 0 = 1; release 7 3 = 1; letters = 8;",
                 "state 0 0 = 0; state 7 3 = 0; shows 7 = 5 7 3 1 7 0");
         SCRIPT.refused("clients", both, "release -1 0 = 0; release 8 3 = 0; release -1 4 = 0;"
-                + "release 1 -4 = 0; release min 0 = 0; release max 3 = 0; release 1073741824 0 = 0");
+                + "release 1 -4 = 0; release min 0 = 0; release max 3 = 0;"
+                + "release 1073741824 0 = 0");
         SCRIPT.refused("cranes", both, "release 0 -1 = 0; release 7 4 = 0; release 8 -1 = 0;"
                 + "release 0 31 = 0; release 0 min = 0; release 7 max = 0");
     }

@@ -91,7 +91,8 @@ public final class EdgePermitTest {
         SCRIPT.run("the first and the last", both, "order 0 0 1 = 1; order 7 3 1 = 1; letters = 2;",
                 "shows 1 = 8 7 3 1 -1 1");
         SCRIPT.refused("clients", both, "order -1 0 1 = 0; order 8 3 1 = 0; order -1 4 1 = 0;"
-                + "order 1 -4 1 = 0; order min 0 1 = 0; order max 3 1 = 0; order 1073741824 0 1 = 0");
+                + "order 1 -4 1 = 0; order min 0 1 = 0; order max 3 1 = 0;"
+                + "order 1073741824 0 1 = 0");
         SCRIPT.refused("cranes", both, "order 0 -1 1 = 0; order 7 4 1 = 0; order 8 -1 1 = 0;"
                 + "order 0 31 1 = 0; order 0 min 1 = 0; order 7 max 1 = 0");
     }
@@ -159,9 +160,9 @@ public final class EdgePermitTest {
                 + "done 0 63 0 = -1; done 0 64 0 = -1; done 3 0 0 = -1");
         SCRIPT.refused("the first and the one behind the last",
                 HOLDING + "order 0 0 5; order 0 0 6; 2 x deliver 0;",
-                "done 0 0 1 = 5; done 0 1 1 = 6; done 0 2 0 = -1; done 0 2 1 = -1; done 0 -1 0 = -1;"
-                + "done 0 -1 1 = -1; done 0 min 0 = -1; done 0 max 0 = -1; done 0 64 1 = -1;"
-                + "done 0 65 1 = -1; done 0 -63 1 = -1; done 0 -64 1 = -1");
+                "done 0 0 1 = 5; done 0 1 1 = 6; done 0 2 0 = -1; done 0 2 1 = -1;"
+                + "done 0 -1 0 = -1; done 0 -1 1 = -1; done 0 min 0 = -1; done 0 max 0 = -1;"
+                + "done 0 64 1 = -1; done 0 65 1 = -1; done 0 -63 1 = -1; done 0 -64 1 = -1");
     }
 
     private static void doneOfTheLatestSixtyFour() {
@@ -195,8 +196,9 @@ public final class EdgePermitTest {
     // What 0: the number, 1: the code.
 
     private static void doneOfOtherThings() {
-        SCRIPT.refused("what", HOLDING + "order 0 0 9; deliver 0;", "done 0 0 0 = 1; done 0 0 1 = 9;"
-                + "done 0 0 -1 = -1; done 0 0 2 = -1; done 0 0 min = -1; done 0 0 max = -1");
+        SCRIPT.refused("what", HOLDING + "order 0 0 9; deliver 0;", "done 0 0 0 = 1;"
+                + "done 0 0 1 = 9; done 0 0 -1 = -1; done 0 0 2 = -1; done 0 0 min = -1;"
+                + "done 0 0 max = -1");
         SCRIPT.refused("cranes", "want 0 0; want 1 3; 32 x deliver 0; order 0 0 8; order 1 3 9;"
                 + "2 x deliver 0;", "done 0 0 1 = 8; done 3 0 1 = 9; done 1 0 1 = -1;"
                 + "done -1 0 0 = -1; done 4 0 0 = -1; done -1 0 1 = -1; done 4 0 1 = -1;"

@@ -41,8 +41,8 @@ public final class EdgePostTest {
 
     private static void letterOfNoneSuch() {
         SCRIPT.run("empty", "shows 0 = -1 -1 -1 -1 -1 -1; shows -1 = -1 -1 -1 -1 -1 -1");
-        SCRIPT.run("the first and the last", ASKING, "shows 0 = 1 0 0 1 0 0; shows 3 = 1 0 0 1 7 0;",
-                "shows -1 = -1 -1 -1 -1 -1 -1; shows 4 = -1 -1 -1 -1 -1 -1;",
+        SCRIPT.run("the first and the last", ASKING, "shows 0 = 1 0 0 1 0 0;",
+                "shows 3 = 1 0 0 1 7 0; shows -1 = -1 -1 -1 -1 -1 -1; shows 4 = -1 -1 -1 -1 -1 -1;",
                 "shows max = -1 -1 -1 -1 -1 -1; shows min = -1 -1 -1 -1 -1 -1;",
                 "shows 240 = -1 -1 -1 -1 -1 -1; shows 1073741824 = -1 -1 -1 -1 -1 -1");
         SCRIPT.run("where one was", ASKING, "drop 0; shows 2 = 1 0 0 1 7 0;",
@@ -77,10 +77,11 @@ public final class EdgePostTest {
     // Promise 12: false if there is none such.
 
     private static void deliverOfNoneSuch() {
-        SCRIPT.refused("empty", "", "deliver 0 = 0; deliver -1 = 0; deliver 1 = 0; deliver 239 = 0");
+        SCRIPT.refused("empty", "", "deliver 0 = 0; deliver -1 = 0; deliver 1 = 0;"
+                + "deliver 239 = 0");
         SCRIPT.refused("beside the first and the last", ASKING, "deliver -1 = 0; deliver 4 = 0;"
-                + "deliver 5 = 0; deliver 239 = 0; deliver 240 = 0; deliver min = 0; deliver max = 0;"
-                + "deliver 1073741824 = 0");
+                + "deliver 5 = 0; deliver 239 = 0; deliver 240 = 0; deliver min = 0;"
+                + "deliver max = 0; deliver 1073741824 = 0");
         SCRIPT.refused("full", FULL, "deliver -1 = 0; deliver 240 = 0; deliver 241 = 0");
         SCRIPT.refused("empty again", HOLDING, "deliver 0 = 0; deliver -1 = 0");
     }
@@ -90,8 +91,8 @@ public final class EdgePostTest {
                 "shows 3 = 2 0 0 1 0 0; vote 0 0 0 = 0");
         SCRIPT.run("the last", ASKING, "deliver 3 = 1; letters = 4; shows 0 = 1 0 0 1 0 0;",
                 "shows 2 = 1 0 0 1 3 0; shows 3 = 2 0 0 1 7 0; vote 7 0 0 = 0");
-        SCRIPT.run("the only one", HOLDING, "order 0 0 4; deliver 0 = 1; letters = 0; orders 0 = 1;",
-                "deliver 0 = 0; orders 0 = 1");
+        SCRIPT.run("the only one", HOLDING, "order 0 0 4; deliver 0 = 1; letters = 0;",
+                "orders 0 = 1; deliver 0 = 0; orders 0 = 1");
         SCRIPT.run("the first and the last of 240", FULL, "stop 0; deliver 0 = 1; letters = 239;",
                 "shows 0 = 1 0 0 1 1 0; deliver 238 = 1; letters = 238; shows 237 = 1 0 0 1 0 0");
     }

@@ -1,6 +1,6 @@
 /**
- * The boundary cases that the document's "Terms" name, a test for each sentence. Those of the routes
- * stand in RouteTest.
+ * The boundary cases that the document's "Terms" name, a test for each sentence. Those of the
+ * routes stand in RouteTest.
  */
 public final class EdgeTermsTest {
     private static final Check CHECK = new Check();
@@ -35,6 +35,7 @@ public final class EdgeTermsTest {
         votesThatComeLater();
         storedFromAll();
         lateStored();
+        storedInAnEarlierRun();
         silentOnlyOnce();
         askOnlyTheNew();
         backToAllAsked();
@@ -211,6 +212,9 @@ public final class EdgeTermsTest {
         SCRIPT.run("three of four, and all", "want 0 0; 7 x deliver 0; state 0 0 = 1;",
                 "quorumOf 0 0 = 11; letters = 1; deliver 0; state 0 0 = 2; quorumOf 0 0 = 139;",
                 "letters = 4; shows 0 = 3 0 0 1 0 1; shows 3 = 3 0 0 1 7 1");
+        SCRIPT.run("one twice, then the others", "want 0 0; 4 x deliver 0; copy 0; deliver 0;",
+                "deliver 3; quorumOf 0 0 = 1; 2 x deliver 0; state 0 0 = 1; deliver 0;",
+                "state 0 0 = 2; letters = 4");
         SCRIPT.run("one vote four times", "want 0 0; 4 x deliver 0; 3 x copy 0; deliver 0;",
                 "3 x deliver 3; quorumOf 0 0 = 1; state 0 0 = 1; letters = 3");
         SCRIPT.run("all but one, that is silent then", "want 0 0; 3 x deliver 0; drop 0;",
@@ -240,6 +244,10 @@ public final class EdgeTermsTest {
         SCRIPT.run("of a vote that came, of one that is silent", lastStored, "want 1 0;",
                 "deliver 3; deliver 3; timeout 1 0 7; 8 x deliver 0; letters = 4;",
                 "shows 0 = 3 1 0 1 0 2; shows 3 = 3 1 0 1 8 2");
+        // Arbiter 7 votes with 1 in run 1 of client 1; in run 2 it is not heard of.
+        SCRIPT.run("not of an earlier run", lastStored, "want 1 0; deliver 3; deliver 3;",
+                "giveUp 1 0; 7 x deliver 0; 3 x drop 0; letters = 0; want 1 0 = 2;",
+                "drop 3; timeout 1 0 7; 8 x deliver 0; state 1 0 = 2; shows 0 = 3 1 0 2 0 1");
         SCRIPT.run("not of one that did not come", lastStored, "want 1 0; drop 3;",
                 "timeout 1 0 7; 8 x deliver 0; letters = 4; shows 0 = 3 1 0 1 0 1");
     }
@@ -263,6 +271,8 @@ public final class EdgeTermsTest {
                 "permit 0 0 = 0; letters = 1; deliver 0; state 0 0 = 3; permit 0 0 = 1");
         SCRIPT.run("one four times", WRITING, "4 x deliver 0; 3 x copy 0; deliver 0;",
                 "3 x deliver 3; state 0 0 = 2; letters = 3");
+        SCRIPT.run("one twice, then the others", WRITING, "4 x deliver 0; copy 0; deliver 0;",
+                "deliver 3; 2 x deliver 0; state 0 0 = 2; deliver 0; state 0 0 = 3; letters = 0");
         SCRIPT.run("one more while holding", WRITING, "4 x deliver 0; copy 0; 4 x deliver 0;",
                 "state 0 0 = 3; deliver 0 = 1; state 0 0 = 3; letters = 0; permit 0 0 = 1");
         SCRIPT.run("one more while broken", WRITING, "4 x deliver 0; copy 0; 4 x deliver 0;",
@@ -281,6 +291,12 @@ public final class EdgeTermsTest {
                 "giveUp 0 0; 4 x deliver 1; want 0 0 = 2; 8 x deliver 1; state 0 0 = 2;",
                 "drop 1; 3 x deliver 1; 3 x deliver 1; shows 0 = 4 0 0 1 0 0; letters = 1;",
                 "deliver 0 = 1; state 0 0 = 2; letters = 0");
+    }
+
+    private static void storedInAnEarlierRun() {
+        SCRIPT.run("all but one in each of two runs", WRITING, "deliver 0; deliver 3; drop 0;",
+                "giveUp 0 0; 2 x drop 0; 4 x deliver 0; want 0 0 = 2; 8 x deliver 0;",
+                "state 0 0 = 2; drop 0; 6 x deliver 0; state 0 0 = 2; letters = 0");
     }
 
     // An arbiter that it is told to count as silent: if it is not counted so yet, it is.
@@ -447,7 +463,8 @@ public final class EdgeTermsTest {
     }
 
     private static void backOfNeither() {
-        SCRIPT.run("no holder", "want 0 0; giveUp 0 0; deliver 4 = 1; letters = 7; vote 0 0 0 = -1");
+        SCRIPT.run("no holder", "want 0 0; giveUp 0 0; deliver 4 = 1; letters = 7;",
+                "vote 0 0 0 = -1");
         SCRIPT.run("a second time", HOLDING, "want 1 0; 4 x deliver 0; release 0 0; copy 0;",
                 "deliver 0; vote 0 0 0 = 1; letters = 5; deliver 3 = 1; vote 0 0 0 = 1;",
                 "letters = 4");

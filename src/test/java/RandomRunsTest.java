@@ -4,8 +4,8 @@ import java.util.Random;
 
 /**
  * Random runs with fixed seeds: each call answers as PlainModel does, and at the end of a run all
- * that the object tells about itself is as there. Some seeds crowd the post, some a single arbiter's
- * row, some a crane; a few calls have wrong arguments.
+ * that the object tells about itself is as there. Some seeds crowd the post, some an arbiter's row,
+ * some a crane; a few calls have wrong arguments.
  */
 public final class RandomRunsTest {
     private static final Check CHECK = new Check();
