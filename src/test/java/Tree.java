@@ -3,18 +3,31 @@ final class Tree implements Face {
     static final int MOST_CALLS = 512;
 
     private final PermitTree tree = new PermitTree();
-    private int calls = 0;
+    private int callsLeft;
+
+    Tree() {
+        this(MOST_CALLS);
+    }
+
+    private Tree(int calls) {
+        callsLeft = calls;
+    }
+
+    /** One for a test that does not look at what it answers after its 512th call. */
+    static Tree usedLong() {
+        return new Tree(Integer.MAX_VALUE);
+    }
 
     private PermitTree use() {
-        calls++;
-        if (calls > MOST_CALLS) {
+        if (callsLeft == 0) {
             throw new IllegalStateException("the test uses an object for over 512 calls");
         }
+        callsLeft--;
         return tree;
     }
 
     int callsLeft() {
-        return MOST_CALLS - calls;
+        return callsLeft;
     }
 
     @Override
