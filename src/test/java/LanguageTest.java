@@ -36,8 +36,8 @@ import javax.tools.StandardJavaFileManager;
 import javax.tools.ToolProvider;
 
 /**
- * The rules of LANGUAGE.md on the source of the program, where the source shows them (rules 7 and 13
- * are AnyCallsTest's too). It is narrower than the rules where the program needs less: it throws
+ * Those rules of LANGUAGE.md that the source of the program shows by itself (rules 7 and 13 are
+ * left to AnyCallsTest). It is narrower than the rules where the program needs less: it throws
  * nothing, loops only with counters and makes objects only in constructors.
  */
 public final class LanguageTest {
